@@ -103,6 +103,11 @@ final class FactTest {
             Check.due("worth with wet by " + n, x.worth(0, 3, 0, n), due[n - 2]);
         }
         Check.due("award", award, 0);
+        x = land();
+        x.wet(0, 3, 6);
+        Check.tell(x, "award a from 0; binds if 0 == 0; class c tasks 1 margin 0; extra e wet;");
+        Check.row(x, 0, 3, 0, 1);
+        Check.due("worth with the wet that is the first fact", x.worth(0, 3, 0, 3), 1200);
     }
 
     private static void rows() {

@@ -183,6 +183,9 @@ final class ForceTest {
         Check.due("fate without an answer", x.fate(early, 0, 0, 0, x.count(3)), 3);
         Check.due("margin in the end", x.margin(0, 1, 0, 0, x.count(3)), 50);
         Check.due("teller of the class", x.item(0, 0, 0, 0, x.count(3), 2), 0);
+        x.price(0, 0, 1, 5);
+        int beside = Check.tell(x, "vary a from 0; margin c is 30;");
+        Check.due("fate beside what is no log", x.fate(beside, 0, 0, 0, x.count(3)), 3);
         x.log(0, 1, 10);
         x.answer(0, 1, 20);
         Check.due("margin told ahead of the new log", x.margin(0, 1, 0, 0, x.count(3)), 50);

@@ -91,14 +91,14 @@ final class HalfTest {
             x.wet(1, 36, 7);
             x.wet(0, 37, 6);
             Check.tell(x, "award a from 0; binds if rate == 0; class c tasks 4 margin years + task + half;"
-                    + "extra e " + vars[i] + "; extra f 1 if " + vars[i] + " == " + due[i] + ";");
+                    + "extra e " + vars[i] + "; extra f 100 if " + vars[i] + " == " + due[i] + ";");
             Check.row(x, 1, 34, 0, 4);
             Check.row(x, 1, 35, 40, 4, 16, 4);
             Check.row(x, 1, 36, 0, 16, -1);
             Check.row(x, 1, 38, 0, 4, 4);
             Check.row(x, 0, 37, 0, 4, 4, 4, 4, 4);
             Check.row(x, 1, 37, 20, 4, -1, 16, 5, -1, -1, -1, -1, -1, -1, 4, 4);
-            Check.due("extra of " + vars[i], x.worth(1, 37, 30, x.count(3)), 36 * 100 + 200 * (due[i] + 1));
+            Check.due("extra of " + vars[i], x.worth(1, 37, 30, x.count(3)), 36 * 100 + 200 * (due[i] + 100));
         }
     }
 
@@ -106,10 +106,11 @@ final class HalfTest {
         String[] holds = {"0 == 0", "not 0 == 1", "not not 0 == 0", "ticket 0", "ticket 3", "not ticket 1", "1 < 2",
             "1 <= 1", "1 != 2", "0 == 1 or 0 == 0", "0 == 0 or 0 == 1 and 0 == 1", "not 0 == 1 and not 0 == 1",
             "not 1 / 0 == 0", "not 1 == 1 / 0", "not 0 < 1 / (1 - 1)", "not 1 / 0 != 7", "0 - 1 < 0",
-            "(1 + 2) * 3 == 9", "1 + 2 * 3 == 7", "2 - 1 <= 4 / 4", "1 / 0 == 0 or 0 == 0"};
+            "(1 + 2) * 3 == 9", "7 == 3 + 4", "7 == 3 + 2 * 2", "1 - 2 < 3 - 3", "1 != 1 + 1", "1 + 2 * 3 == 7", "2 - 1 <= 4 / 4", "1 / 0 == 0 or 0 == 0"};
         String[] not = {"0 == 1", "not 0 == 0", "ticket 1", "not ticket 0", "not not ticket 1", "2 < 2", "3 <= 2",
             "2 != 2", "0 == 0 and 0 == 1", "(1 / 0) == 0", "1 / 0 == 0", "0 == 0 * (1 / 0)", "1 / 0 != 1 / 0",
-            "0 <= 1 / 0", "not 0 == 0 or 0 == 1", "0 == 1 or 0 == 0 and 0 == 1", "not 0 == 0 and not 0 == 1"};
+            "0 <= 1 / 0", "not 0 == 0 or 0 == 1", "0 == 1 or 0 == 0 and 0 == 1", "not 0 == 0 and not 0 == 1", "1 == 1 + 1",
+            "3 < 1 + 2", "not 7 == 3 + 4", "0 == 0 and 7 == 4 + 4"};
         for (String cond : holds) {
             Check.due(cond, binds(cond), 0);
             Check.due("load if " + cond, countsIf(cond), 2);
@@ -171,6 +172,7 @@ final class HalfTest {
         Check.due("over of two", boundOf("award a" + all, "award b" + all + "over a;"), 1);
         Check.due("over of two, told ahead", boundOf("award a" + all + "over b;", "award b" + all), 0);
         Check.due("over one another", boundOf("award a" + all + "over b;", "award b" + all + "over a;"), -2);
+        Check.due("over ahead of binds", boundOf("award a" + all, "award b from 0; over a; binds if 0 == 0;"), 1);
         Check.due("over itself", boundOf("award a" + all + "over a;"), 0);
         Check.due("over itself and another", boundOf("award a" + all + "over a; over b;", "award b" + all), 0);
         Check.due("over in a row", boundOf("award a" + all + "over b;", "award b" + all + "over c;", "award c" + all),
@@ -194,6 +196,7 @@ final class HalfTest {
         for (int half = 0; half < 4; half++) {
             Check.due("classed of half " + half, x.classed(0, 0, half, 2), due[half]);
         }
+        Check.due("worth with a load ahead of all", x.worth(0, 0, 0, 2), 1050);
         Check.tell(x, "vary a from 0; class c tasks 4 margin 1; choose highest; choose each;");
         int[] then = {-1, 3, 3, 2};
         for (int half = 0; half < 4; half++) {
@@ -270,6 +273,7 @@ final class HalfTest {
         x.marks(2, 0b0111);
         Check.due("nearest with the most", x.nearest(0, 0, 0, 2), 1);
         x.marks(4, 0xff);
+        Check.due("nearest beside a task of no class", x.nearest(0, 0, 0, 2), 1);
         Check.due("nearest of what is named", x.nearest(0, 0, 1, 2), -1);
         Check.tell(x, "vary a from 0; strike c;");
         Check.due("nearest as it is", x.nearest(0, 0, 0, 3), 2);
@@ -277,6 +281,13 @@ final class HalfTest {
         Check.due("nearest of what is unnamed now", x.nearest(0, 0, 1, 3), 2);
         Check.tell(x, "award b from 0; binds if 0 == 0;");
         Check.due("nearest in a quarrel", x.nearest(0, 0, 0, 4), -1);
+        x = land();
+        Check.tell(x, "award a from 0; binds if 0 == 0; load l 1; class c tasks 15 margin 10; class d tasks 0 margin 1;");
+        Check.row(x, 0, 0, 0, 9);
+        x.marks(9, 3);
+        x.marks(15, 1);
+        x.marks(0, 3);
+        Check.due("nearest by task 0", x.nearest(0, 0, 0, 2), 3);
     }
 
     private static void rates() {
@@ -317,6 +328,7 @@ final class HalfTest {
         Check.due("loads above 1000", worthWith("load l 400; load m 400; load n 101;"), 10000);
         Check.due("a load by 0", worthWith("load l 50 + 1 / 0; load m 3;"), 1030);
         Check.due("a load by rate", worthWith("load l rate;"), 1100);
+        Check.due("a load of the award's name", worthWith("load a 7;"), 1070);
         Check.due("a load that is told twice", worthWith("load l 50; load l 20;"), 1200);
         Check.due("loads that wrap", worthWith("load l 9999 * 9999 * 30;"), 1000 + 10 * Math.max(-100,
                 Math.min(400, 9999 * 9999 * 30)));
@@ -408,6 +420,13 @@ final class HalfTest {
         Check.tell(x, "agree a firm 0 from 8; binds if 0 == 0; class c tasks 1 margin 4;");
         Check.due("payer of what gives less", x.payer(0, 9, 0, 12), 0);
         Check.due("rate by the award", x.rate(0, 9, 0, 12), 10);
+        x = land();
+        Check.tell(x, "award a from 5; binds if 0 == 0; class c tasks 1 margin 10;");
+        Check.tell(x, "agree a firm 0 from 0; binds if 0 == 0; class c tasks 1 margin 50;");
+        Check.row(x, 0, 5, 0, 1);
+        Check.row(x, 0, 4, 0, 1);
+        Check.due("payer by an agree from an earlier day", x.payer(0, 5, 0, 4), 1);
+        Check.due("payer ahead of the award", x.payer(0, 4, 0, 4), -1);
     }
 
     private static void agreeChooses() {

@@ -76,6 +76,15 @@ final class PartingTest {
         WageCourt x = with(5, 5, 9, 5);
         Check.due("of four, two values", x.parting(15, 7, 0), 0);
         parted(x, new int[] {0, 0, 1, 0}, new int[] {5, 5, 9, 5});
+        x = with(5, 5, 7, 9);
+        Check.due("of four, three values", x.parting(15, 4, 999), 0);
+        parted(x, new int[] {0, 0, 1, 2}, new int[] {5, 5, 7, 9});
+        x = with(5, 5, 5, 5);
+        x.apart(0, 2, true);
+        x.apart(1, 3, true);
+        x.apart(3, 2, true);
+        Check.due("fewer classes in a later one", x.parting(15, 4, 0), 0);
+        parted(x, new int[] {0, 1, 1, 0}, new int[] {5, 5, 5, 5});
     }
 
     private static void firstOfAlike() {
@@ -103,6 +112,9 @@ final class PartingTest {
         parted(x, new int[] {0, 0, 0}, new int[] {900, 900, 900});
         Check.due("a value in reach", x.parting(7, 1, 900), 2);
         parted(x, new int[] {0, 0, 0}, new int[] {3, 3, 3});
+        x = with(30, 29, 40);
+        Check.due("the least of those that as many have", x.parting(7, 1, 12), 2);
+        parted(x, new int[] {0, 0, 0}, new int[] {29, 29, 29});
         x = with(999, 0);
         Check.due("far ones", x.parting(3, 1, 999), 1);
         parted(x, new int[] {0, 0}, new int[] {0, 0});

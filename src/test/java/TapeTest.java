@@ -60,6 +60,9 @@ final class TapeTest {
         }
         Check.due("named with blanks", Check.named(x, " \t\n\rthree\r\n\t "), 2);
         Check.due("bytes after named", x.count(6), 0);
+        Check.tape(x, "onetwo");
+        x.back(3);
+        Check.due("named of what is left", x.named(), 0);
         Check.due("named of two", Check.named(x, "one one"), -1);
         Check.due("bytes after no name", x.count(6), 0);
         Check.due("named with a sign", Check.named(x, "one;"), -1);

@@ -35,12 +35,30 @@ final class TextTest {
 
     private static void tokens() {
         WageCourt x = new WageCourt();
+        left(x, "award a from 0; binds if 1 <=", 1);
+        left(x, "award a from 0; binds if 1 <=", 0);
+        left(x, "award a from 0; binds if 1 ==", 0);
+        left(x, "award a from 13", 1);
+        left(x, "award ab", 1);
+        Check.fault(x, "award a from 0; binds if 1 =", 1, 27);
+        Check.fault(x, "award a from 0; class c tasks 1+2 margin 1;", 1, 31);
+        Check.fault(x, "award a from 0; class c tasks 1;2 margin 1;", 1, 31);
+        Check.fault(x, "award a from 0; load l 1, 2;", 1, 24);
+        Check.fault(x, "award a from 0; load l (1;", 1, 25);
         Check.fault(x, "awardabc from0;", 1, 0);
         Check.tell(x, "\t\naward abc\rfrom0;binds if0==0;load l2if3<4bars m;");
         Check.due("names", x.count(5), 3);
         Check.fault(x, "award b from 0;binds if 1<=2<3;", 1, 28);
         Check.fault(x, "award b from 0;round 00001;", 1, 21);
         Check.tell(x, "award b from 0;round 0001;");
+    }
+
+    /** What was taken back counts no more: the fault is the text's end. */
+    private static void left(WageCourt x, String text, int back) {
+        Check.tape(x, text);
+        x.back(back);
+        Check.due("read of what is left of " + text, x.read(), 1);
+        Check.due("place in what is left of " + text, x.place(), text.length() - back);
     }
 
     private static void words() {

@@ -14,6 +14,7 @@ final class WeekTest {
         triedTies();
         triedChoice();
         turned();
+        tenPeople();
         Check.end();
     }
 
@@ -269,6 +270,23 @@ final class WeekTest {
         Check.due("pay by the highest", x.pay(0, 0, 2), 20);
         Check.due("tried with another highest", x.tried(0, 0, 1, 30, 0, 0, 2), 30);
         Check.due("tried with another highest", x.tried(0, 0, 2, 4, 0, 0, 2), 10);
+    }
+
+    private static void tenPeople() {
+        WageCourt x = new WageCourt();
+        x.town();
+        for (int i = 0; i < 8; i++) {
+            x.firm(0, 0);
+        }
+        for (int i = 0; i < 10; i++) {
+            x.person(7, 0, 0);
+        }
+        Check.tell(x, "award a from 0; binds if 0 == 0; class c tasks 1 margin 10;");
+        Check.row(x, 9, 139, 0, 1);
+        Check.due("turned of the tenth person", x.turned(1, 2), 199);
+        Check.due("turned of none", x.turned(2, 2), -1);
+        Check.due("tried of ten people", x.tried(7, 0, 1, 30, 0, 19, 2), 15);
+        Check.due("tried of another firm", x.tried(6, 0, 1, 30, 0, 19, 2), 0);
     }
 
     private static void turned() {
