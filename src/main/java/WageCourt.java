@@ -1534,9 +1534,7 @@ public final class WageCourt {
         /** Goes on with a TOKEN where no sign is due: the FAULT, or 0. */
         int goOnWithUnit(int kind, int number) {
             if (state == AT_TICKET) {
-                state = BEHIND_TICKET;
-                addStep(TICKET, number);
-                return kind == INT ? 0 : SYNTAX;
+                return goOnWithOperand(TICKET, number, BEHIND_TICKET, kind == INT);
             }
             if (state == AT_LIT && kind == NOT) {
                 putOff(NOT, RANK_NOT);
@@ -1546,15 +1544,26 @@ public final class WageCourt {
                 state = AT_TICKET;
                 return 0;
             }
-            if (kind == OPEN) {
-                state = AT_UNIT;
-                putOff(OPEN, RANK_OPEN);
-                brackets++;
-                return brackets > BRACKETS ? ROOM : 0;
+            if (kind != OPEN) {
+                boolean isInt = kind == INT;
+                return goOnWithOperand(kind, isInt ? number : 0, BEHIND_UNIT, isInt || within(kind, LEAST, RATE));
             }
-            state = BEHIND_UNIT;
-            addStep(kind, kind == INT ? number : 0);
-            return kind == INT || within(kind, LEAST, RATE) ? 0 : SYNTAX;
+            if (brackets >= BRACKETS) {
+                return ROOM;
+            }
+            brackets++;
+            putOff(OPEN, RANK_OPEN);
+            state = AT_UNIT;
+            return 0;
+        }
+
+        private int goOnWithOperand(int kind, int number, int then, boolean can) {
+            if (!can) {
+                return SYNTAX;
+            }
+            addStep(kind, number);
+            state = then;
+            return 0;
         }
 
         /** Goes on with a TOKEN behind a whole operand, or ends ahead of it: the FAULT, or 0. */

@@ -14,6 +14,7 @@ final class ForceTest {
         ties();
         tiesAcross();
         agrees();
+        sixtyStand();
         Check.end();
     }
 
@@ -297,6 +298,34 @@ final class ForceTest {
         Check.due("margin while the other is stayed", x.margin(0, c, 4, 1, 5), 1);
         Check.tell(x, "agree a firm 0 from 0; class c tasks 1 follows b e plus 3;");
         Check.tell(x, "vary b from 0; class e tasks 1 margin 9999;");
+    }
+
+    /** As many as there are NAMES, the award's own among them. */
+    private static void sixtyStand() {
+        WageCourt x = land();
+        Check.tell(x, "award aa from 0; binds if 0 == 0;");
+        for (int text = 0; text < 3; text++) {
+            StringBuilder told = new StringBuilder("vary aa from 0;");
+            for (int i = 20 * text; i < 20 * text + 20; i++) {
+                String name = "" + (char) ('a' + i / 26) + (char) ('a' + i % 26);
+                told.append(i == 59 ? " class " + name + " tasks 1 margin 3;" : " extra " + name + " 1;");
+            }
+            Check.tell(x, told.toString());
+        }
+        Check.due("names", x.count(5), 60);
+        for (int k = 0; k < 60; k++) {
+            Check.due("item " + k, x.item(0, 0, 0, k, 4, 1), k);
+            Check.due("teller of item " + k, x.item(0, 0, 0, k, 4, 2), 1 + k / 20);
+        }
+        Check.due("item 60", x.item(0, 0, 0, 60, 4, 1), -1);
+        Check.row(x, 0, 0, 0, 1);
+        Check.due("worth with 59 extras", x.worth(0, 0, 0, 5), 300 + 59 * 200);
+        Check.due("the last that counts", x.counted(0, 0, 0, 58, 5), 58);
+        Check.due("behind the last that counts", x.counted(0, 0, 0, 59, 5), -1);
+        Check.tell(x, "vary aa from 0; strike aa; strike bb; extra aa 5;");
+        Check.due("the first of those that are left", x.item(0, 0, 0, 0, 6, 1), 1);
+        Check.due("the last of them", x.item(0, 0, 0, 58, 6, 1), 0);
+        Check.due("behind them", x.item(0, 0, 0, 59, 6, 1), -1);
     }
 
     private static void agrees() {
