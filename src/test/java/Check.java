@@ -2,15 +2,21 @@
 final class Check {
     private static int wrong = 0;
     private static int looked = 0;
+    private static String sentence = "";
 
     private Check() {
+    }
+
+    /** What is looked at from here on holds that sentence of the document; SentenceTest looks it up there. */
+    static void holds(String part, String said) {
+        sentence = "[" + part + ": " + said + "] ";
     }
 
     static void due(String what, long got, long want) {
         looked++;
         if (got != want) {
             wrong++;
-            System.out.println(what + " answered " + got + ", due is " + want);
+            System.out.println(sentence + what + " answered " + got + ", due is " + want);
         }
     }
 
@@ -68,6 +74,20 @@ final class Check {
         String shown = text.length() > 70 ? text.substring(0, 70) + ".." : text;
         due("read of '" + shown + "'", read(court, text), number);
         due("place of the fault in '" + shown + "'", court.place(), place);
+    }
+
+    /** So many texts that nobody needs, one FACT each. */
+    static void fillTexts(WageCourt court, int texts, String text) {
+        for (int i = 0; i < texts; i++) {
+            tell(court, text);
+        }
+    }
+
+    /** FACTS that change nothing, until there are so many. */
+    static void fillFacts(WageCourt court, int facts) {
+        for (int i = court.count(3); i < facts; i++) {
+            due("a fact that fills", court.wet(0, 139, 0), i);
+        }
     }
 
     /** A ROW with those cells from the HALF on, NOTHING ahead of them. */
