@@ -121,7 +121,6 @@ public final class WageCourt {
     private static final int STRIKE = 39;
     private static final int MARGIN = 40;
     private static final int AWARD = 41;
-    private static final int AGREE = 44;
     private static final int FIRM = 45;
     private static final int FROM = 46;
     private static final int IF = 47;

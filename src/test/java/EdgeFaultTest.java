@@ -401,12 +401,37 @@ final class EdgeFaultTest {
             Check.due("the next fact", Check.tell(x, "award d from 0;"), 2);
             Check.due("names", x.count(5), 3);
         }
+        faultsLeaveNothing();
         WageCourt x = withNames(60);
         int facts = x.count(3);
         Check.fault(x, "vary va from 0; strike vb; strike b;", 6, 34);
         Check.due("facts behind FULL", x.count(3), facts);
         Check.due("names behind FULL", x.count(5), 60);
         Check.due("named behind FULL", Check.named(x, "b"), -1);
+    }
+
+    /** Each text breaks off in the midst of something; the one that is read next is read as on a new object. */
+    private static void faultsLeaveNothing() {
+        String[] broken = {"award z from 0; binds if not ?", "award z from 0; binds if not not ticket ?",
+            "award z from 0; load l ((((((1 ?", "award z from 0; binds if 1 == 1 and not (1 ?",
+            "award z from 0; binds if 0 == 1 or 7 * ?", "award z from 0; load l 1 bars m ?",
+            "award z from 0; class c tasks 1, 2 follows d e ?", "award z from 0; binds if 1 == ?",
+            "award z from 0; load l (((((((1", "award z from 0; round ?", "award z from 140; binds if ticket 8; strike c;"};
+        for (String text : broken) {
+            WageCourt x = new WageCourt();
+            x.town();
+            x.firm(0, 0);
+            x.person(0, 0, 0);
+            Check.due("a fault", Check.read(x, text) > 0, true);
+            Check.tell(x, "award a from 0; binds if 0 == 0; class c tasks 3 margin ((((((1)))))) + 2 * 5; extra e 4 if not 0 =="
+                    + " 1; load l 1;");
+            Check.row(x, 0, 0, 0, 3, 2, 1);
+            Check.due("bound behind '" + text + "'", x.bound(0, 0, 0, 2), 0);
+            Check.due("margin behind it", x.margin(0, 1, 0, 0, 2), 11);
+            Check.due("worth behind it", x.worth(0, 0, 0, 2), 11 * 101 + 800);
+            Check.due("class of another task behind it", x.classed(0, 0, 1, 2), -1);
+            Check.due("names behind it", x.count(5), 4);
+        }
     }
 
     /** Whether the COND holds for a PERSON of YEARS 4 with all TICKETS. */

@@ -17,6 +17,7 @@ final class EdgeForceTest {
         ambitEdges();
         ambitWithoutClaims();
         ambitOfTheLastClaims();
+        ambitBesideOtherFacts();
         ambitOfTheAwardAndName();
         ambitToldAhead();
         fallsAlone();
@@ -359,6 +360,30 @@ final class EdgeForceTest {
         }
     }
 
+    /** FACTS of other kinds with the same numbers in them are no LOGS or ANSWERS. */
+    private static void ambitBesideOtherFacts() {
+        WageCourt x = court("award a from 0; class b tasks 1 margin 1; class c tasks 1 margin 1;");
+        x.answer(0, 1, 5);
+        x.price(0, 0, 1, 5);
+        x.wet(0, 1, 5);
+        x.paid(0, 1, 5);
+        x.row(0, 1, 5);
+        x.stay(0, 1, 5);
+        Check.tell(x, "vary a from 0; margin b is 5;");
+        Check.due("fate with an answer alone", x.fate(7, 0, 0, 0, 8), 3);
+        x.log(0, 1, 5);
+        x.price(0, 0, 1, 9);
+        x.stay(0, 1, 9);
+        Check.tell(x, "vary a from 0; margin b is 5; margin b is 9;");
+        Check.due("fate with both", x.fate(11, 0, 0, 0, 12), 0);
+        Check.due("fate of what another fact has", x.fate(11, 1, 0, 0, 12), 3);
+        WageCourt y = court("award a from 0; class b tasks 1 margin 1;");
+        y.log(0, 1, 5);
+        y.price(0, 0, 1, 5);
+        Check.tell(y, "vary a from 0; margin b is 5;");
+        Check.due("fate with a log alone", y.fate(3, 0, 0, 0, 4), 3);
+    }
+
     private static void ambitOfTheAwardAndName() {
         Check.holds("Terms", "for the award and the NAME");
         WageCourt x = court("award a from 0; class c tasks 1 margin 1; class d tasks 2 margin 1;",
@@ -440,6 +465,14 @@ final class EdgeForceTest {
         Check.due("pay in whole pence, 7.5", x.pay(0, 0, 2), 8);
         Check.row(x, 0, 7, 0, 1, 1);
         Check.due("pay in whole pence, 2", x.pay(0, 1, 3), 2);
+        Check.tell(x, "vary a from 14; choose most; round 60;");
+        Check.row(x, 0, 14, 0, 1, 1, 2, 1);
+        Check.due("class by most from another day on", x.classed(0, 14, 2, 5), 1);
+        Check.due("class by each still, asked behind it", x.classed(0, 0, 2, 5), 2);
+        Check.due("pay with the round from that day on", x.pay(0, 2, 5), 0);
+        Check.due("pay in whole pence still, asked behind it", x.pay(0, 0, 5), 8);
+        Check.due("class by each as known", x.classed(0, 14, 2, 3), -1);
+        Check.due("class by each at another firm", x.classed(1, 14, 2, 5), -1);
         WageCourt y = court("award a from 0; binds if 0 == 0;", "agree a firm 0 from 0; binds if 0 == 0; class c tasks 1"
                 + " margin 2; class d tasks 2 margin 9;");
         Check.row(y, 0, 0, 0, 1, 1, 2);

@@ -18,6 +18,7 @@ final class EdgeHalfTest {
         didOfNoSuchOnes();
         boundBySome();
         boundByConds();
+        boundByJoinedConds();
         overs();
         quarrels();
         boundOfNoSuchOnes();
@@ -25,6 +26,7 @@ final class EdgeHalfTest {
         byMost();
         byMostAlike();
         byMostBound();
+        byMostOfSixty();
         byHighest();
         chosenForEachThatHasOne();
         classed();
@@ -54,13 +56,13 @@ final class EdgeHalfTest {
         return x;
     }
 
-    /** The value of the VAR of an extra, which is told as FACT 0, 0 .. 999. */
+    /** An extra, told as FACT 0, shows the VAR, as far as it is -100 .. 899. */
     private static WageCourt withVar(String name) {
-        return court("award a" + ALWAYS + "class c tasks 0,1,2,3,4,5,15 margin 1; extra e " + name + ";");
+        return court("award a" + ALWAYS + "class c tasks 0,1,2,3,4,5,15 margin 1; extra e 100 + " + name + ";");
     }
 
     private static int var(WageCourt x, int person, int day, int half, int n) {
-        return (x.worth(person, day, half, n) - 100 * x.rate(person, day, half, n)) / 200;
+        return (x.worth(person, day, half, n) - 100 * x.rate(person, day, half, n)) / 200 - 100;
     }
 
     private static void varsOfThePerson() {
@@ -130,10 +132,11 @@ final class EdgeHalfTest {
         WageCourt x = withVar("week");
         int[] full = new int[48];
         Arrays.fill(full, 2);
-        for (int day = 6; day < 15; day++) {
+        for (int day = 7; day < 14; day++) {
             Check.row(x, 0, day, 0, full);
         }
-        Check.row(x, 1, 7, 0, full);
+        Check.row(x, 0, 14, 0, 2, 2);
+        Check.row(x, 1, 7, 0, 2, 2);
         int n = x.count(3);
         Check.due("week on its first day", var(x, 0, 7, 0, n), 0);
         Check.due("week on its first day, behind one", var(x, 0, 7, 1, n), 1);
@@ -141,8 +144,13 @@ final class EdgeHalfTest {
         Check.due("week on its second day", var(x, 0, 8, 0, n), 48);
         Check.due("week at its very end", var(x, 0, 13, 47, n), 7 * 48 - 1);
         Check.due("week on the first day of the next", var(x, 0, 14, 0, n), 0);
-        Check.due("week at the end of the one ahead", var(x, 0, 6, 47, n), 47);
-        Check.due("week of another person", var(x, 1, 7, 0, n), 0);
+        Check.due("week on the first day of the next, behind one", var(x, 0, 14, 1, n), 1);
+        Check.due("week of another person", var(x, 1, 7, 1, n), 1);
+        WageCourt ahead = withVar("week");
+        Check.row(ahead, 0, 6, 0, full);
+        Check.row(ahead, 0, 7, 0, full);
+        Check.due("week at the end of its last day", var(ahead, 0, 6, 47, 3), 47);
+        Check.due("week behind the end of the one ahead", var(ahead, 0, 7, 0, 3), 0);
     }
 
     private static void weekAsKnown() {
@@ -180,6 +188,11 @@ final class EdgeHalfTest {
             Check.due("wet on day " + day + " as known", var(wet, 0, day, 0, n - 3), 0);
         }
         Check.due("wet of the other firm", var(wet, 1, 34, 0, n), 1);
+        WageCourt first = court();
+        first.wet(0, 0, 7);
+        Check.tell(first, "award a" + ALWAYS + "class c tasks 1 margin 1; extra e 100 + wet;");
+        Check.row(first, 0, 0, 0, 1);
+        Check.due("wet that is the first fact", var(first, 0, 0, 0, 3), 7);
         WageCourt least = withVar("least");
         for (int day = 33; day < 37; day++) {
             Check.row(least, 0, day, 0, 1);
@@ -292,6 +305,27 @@ final class EdgeHalfTest {
             "task < 2", "1 <= task", "0 <= half", "worked < 1", "week <= 0", "0 - 1 < 0"};
         String[] not = {"years < 40", "41 <= years", "years != 40", "8 <= trade", "town < 1", "task < 1", "half < 0",
             "0 < worked", "week != 0", "0 < 0", "0 < 0 - 1"};
+        for (String cond : so) {
+            Check.due("bound if " + cond, boundOf(1, "award a from 0; binds if " + cond + ";"), 0);
+        }
+        for (String cond : not) {
+            Check.due("bound if " + cond, boundOf(1, "award a from 0; binds if " + cond + ";"), -1);
+        }
+    }
+
+    /** or binds less than and, and less than not; none of them sees what another one's E did. */
+    private static void boundByJoinedConds() {
+        String yes = "0 == 0";
+        String no = "0 == 1";
+        String[] so = {"not not " + yes, "not not not " + no, yes + " or " + yes + " and " + no, no + " and " + no + " or " + yes,
+            yes + " or " + no + " and " + no, no + " or " + yes + " and " + yes, "not " + no + " and " + yes,
+            "not " + no + " or " + no, "not " + yes + " or " + yes, "not not ticket 7", "ticket 0 and not " + no,
+            no + " or " + no + " or " + yes, yes + " and " + yes + " and " + yes, "not " + no + " and not " + no,
+            "not not " + yes + " and not not " + yes, "not " + yes + " and " + no + " or not " + no};
+        String[] not = {"not not " + no, "not not not " + yes, yes + " and " + no + " or " + no, no + " or " + yes + " and " + no,
+            no + " or " + no + " or " + no, yes + " and " + yes + " and " + no, "not " + yes + " and " + yes,
+            "not " + no + " and " + no, "not not " + no + " or " + no, "not ticket 7", yes + " and not " + yes,
+            no + " and " + yes + " or " + yes + " and " + no, "not " + yes + " or not " + yes};
         for (String cond : so) {
             Check.due("bound if " + cond, boundOf(1, "award a from 0; binds if " + cond + ";"), 0);
         }
@@ -468,6 +502,29 @@ final class EdgeHalfTest {
         Check.row(y, 0, 0, 20, 1, 1, 1, 2, 2, 2, 2, 2);
         Check.due("class by what is bound alone", y.classed(0, 0, 23, 2), c);
         Check.due("class of what is not bound", y.classed(0, 0, 24, 2), -1);
+    }
+
+    /** As many classes as there can be: 59 of one TASK, told by three TEXTS, and the award's own NAME. */
+    private static void byMostOfSixty() {
+        for (String way : new String[] {"most", "highest"}) {
+            WageCourt x = court("award va" + ALWAYS + "choose " + way + ";");
+            for (int text = 0; text < 3; text++) {
+                StringBuilder told = new StringBuilder("vary va from 0;");
+                for (int i = 20 * text; i < 20 * text + 20; i++) {
+                    told.append("class ").append((char) ('v' + i / 26)).append((char) ('a' + i % 26)).append(" tasks ")
+                            .append(i % 15).append(" margin ").append(i).append(';');
+                }
+                Check.tell(x, told.toString());
+            }
+            Check.tell(x, "vary va from 0; class " + (char) ('v' + 59 / 26) + (char) ('a' + 59 % 26) + " tasks 15 margin 3;");
+            Check.due("names", x.count(5), 60);
+            Check.row(x, 0, 0, 0, 1, 2, 15, 15);
+            Check.due("class of 60 by " + way, x.classed(0, 0, 0, 6), 59);
+            Check.row(x, 0, 1, 0, 1, 2, 15);
+            Check.due("class of 60 by " + way + ", all alike", x.classed(0, 1, 2, 7), 59);
+            Check.row(x, 0, 2, 0, 0, 1, 0);
+            Check.due("class of 60 by " + way + ", the first two", x.classed(0, 2, 1, 8), way.equals("most") ? 0 : 1);
+        }
     }
 
     private static void byHighest() {

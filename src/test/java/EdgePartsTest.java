@@ -239,8 +239,17 @@ final class EdgePartsTest {
         y.apart(0, 1, true);
         y.apart(0, 2, true);
         y.apart(1, 3, true);
-        Check.due("fewer classes though they come later by their numbers", y.parting(15, 4, 0), 0);
+        Check.due("two classes that are the first that can be", y.parting(15, 4, 0), 0);
         parted(y, classes(0, 1, 1, 0), 4, 4);
+        WageCourt z = with(4, 4, 4, 4);
+        z.apart(0, 2, true);
+        z.apart(1, 3, true);
+        z.apart(2, 3, true);
+        Check.due("two classes, though three are ahead by their numbers", z.parting(15, 4, 0), 0);
+        parted(z, classes(0, 1, 1, 0), 4, 4);
+        z.apart(1, 2, true);
+        Check.due("three classes, where two cannot be", z.parting(15, 4, 0), 0);
+        parted(z, classes(0, 0, 1, 2), 4, 4, 4);
     }
 
     private static void firstOfAlike() {

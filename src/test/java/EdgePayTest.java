@@ -177,6 +177,10 @@ final class EdgePayTest {
         Check.due("loads of -99", worthWith("load l 0 - 99;"), 10);
         Check.due("loads of -100 in two", worthWith("load l 0 - 60; load m 0 - 40;"), 0);
         Check.due("loads of -101 in two", worthWith("load l 0 - 60; load m 0 - 41;"), 0);
+        Check.due("loads of -99 in two and an extra", worthWith("load l 0 - 60; load m 0 - 39; extra e 1;"), 210);
+        Check.due("loads of -100 in two and an extra", worthWith("load l 0 - 60; load m 0 - 40; extra e 1;"), 200);
+        Check.due("loads of -101 in two and an extra", worthWith("load l 0 - 60; load m 0 - 41; extra e 1;"), 200);
+        Check.due("loads of -200 in two and an extra", worthWith("load l 0 - 100; load m 0 - 100; extra e 1;"), 200);
         Check.due("loads of -200 and 150", worthWith("load l 0 - 100; load m 0 - 100; load n 150;"), 500);
         Check.due("loads of 1600 and -100", worthWith("load l 400; load m 400; load n 400; load o 400; load p 0 - 100;"
                 + " load q 0 - 100; load r 0 - 100; load s 0 - 100; load t 0 - 100; load u 0 - 100; load v 0 - 100;"
@@ -254,6 +258,12 @@ final class EdgePayTest {
             x.stay(3, 5, 6);
             Check.due("payer while it is stayed", x.payer(0, 5, 0, 5), 0);
         }
+        WageCourt late = court("award a from 5; binds if 0 == 0; class c tasks 1 margin 10;", "agree a firm 0" + ALWAYS
+                + "class c tasks 1 margin 50;");
+        Check.row(late, 0, 5, 0, 1);
+        Check.row(late, 0, 4, 0, 1);
+        Check.due("payer by an agree from a day ahead of the award's", late.payer(0, 5, 0, 4), 1);
+        Check.due("payer ahead of the award", late.payer(0, 4, 0, 4), -1);
         WageCourt x = court("award a from 0; binds if half < 1; class c tasks 1 margin 10;", "agree a firm 0" + ALWAYS
                 + "class c tasks 1 margin 50;");
         Check.row(x, 0, 0, 0, 1, 1);
@@ -325,10 +335,20 @@ final class EdgePayTest {
         for (int half = 0; half < then.length; half++) {
             Check.due("rate of half " + half + ", one looked at by another", x.rate(0, 0, half, 4), then[half]);
         }
+        WageCourt y = court("award a from 0; binds if weekday == 0 or half < 3; class c tasks 1,2 margin 1;",
+                "agree a firm 0" + ALWAYS + "choose most; class d tasks 1 margin 10; class e tasks 2 margin 5;");
+        Check.row(y, 0, 0, 0, 2, 2, 2, 2, 2, 2);
+        Check.row(y, 0, 1, 0, 1, 1, 2, 2, 2, 2);
+        Check.due("rate on one day", y.rate(0, 0, 5, 4), 5);
+        Check.due("rate on the next, where fewer halves are bound", y.rate(0, 1, 2, 4), 10);
+        Check.due("rate of what is not bound", y.rate(0, 1, 5, 4), -1);
+        Check.due("pay of both days", y.pay(0, 0, 4), (6 * 5 + 3 * 10) / 2);
     }
 
     private static void greaterCounts() {
         Check.holds("Terms", "the greater of both counts, the award's if they are alike.");
+        Check.due("a worth of 1", payerOf("class c tasks 1 margin 1; load l 0 - 99;"), 0);
+        Check.due("a worth of 0", payerOf("class c tasks 1 margin 1; load l 0 - 100;"), -1);
         int[][] both = {{10, 9, 0}, {10, 10, 0}, {10, 11, 1}, {0, 1, 1}, {1, 0, 0}, {0, 0, -1}};
         for (int[] b : both) {
             WageCourt x = court("award a" + ALWAYS + "class c tasks 1 margin " + b[0] + ";", "agree a firm 0" + ALWAYS
@@ -344,6 +364,12 @@ final class EdgePayTest {
         Check.row(x, 1, 0, 0, 1);
         Check.due("payer of alike worth by an extra", x.payer(0, 0, 0, 5), 0);
         Check.due("payer of 999 and 1000", x.payer(1, 0, 0, 5), 0);
+    }
+
+    private static int payerOf(String items) {
+        WageCourt x = court("award a" + ALWAYS + items);
+        Check.row(x, 0, 0, 0, 1);
+        return x.payer(0, 0, 0, 2);
     }
 
     /** Wrong ones of PERSON, DAY, HALF, n, with two FACTS. */
@@ -536,6 +562,11 @@ final class EdgePayTest {
         Check.due("pay of the last week", z.pay(0, 19, 2), 10);
         z.stay(0, 139, 140);
         Check.due("pay of the last week, stayed on the last day", z.pay(0, 19, 3), 8);
+        WageCourt odd = court("award a" + ALWAYS + "class c tasks 1 margin 13; round 2;");
+        Check.row(odd, 0, 0, 0, 1);
+        Check.due("pay of 6.5, round 2", odd.pay(0, 0, 2), 6);
+        odd.stay(0, 6, 7);
+        Check.due("pay of 6.5, not in force on the last day", odd.pay(0, 0, 3), 7);
     }
 
     private static void payOfNoSuchOnes() {

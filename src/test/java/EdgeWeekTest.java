@@ -18,6 +18,7 @@ final class EdgeWeekTest {
         shortSetOff();
         shortOfNoSuchOnes();
         tryAtFirms();
+        tryOfTenPeople();
         tryInWeeks();
         tryOfNames();
         tryWhereItIs();
@@ -274,6 +275,25 @@ final class EdgeWeekTest {
         Check.tell(empty, "award a from 0; class c tasks 1 margin 1;");
         Check.due("tried at all without people", empty.tried(-1, 0, 1, 5, 0, 19, 1), 0);
         Check.due("tried at firm 0 that is not there", empty.tried(0, 0, 1, 5, 0, 19, 1), -1);
+    }
+
+    private static void tryOfTenPeople() {
+        WageCourt x = new WageCourt();
+        x.town();
+        for (int i = 0; i < 8; i++) {
+            x.firm(0, 0);
+        }
+        for (int i = 0; i < 10; i++) {
+            x.person(i % 8, 0, 0);
+        }
+        Check.tell(x, "award a" + ALWAYS + "class c tasks 1 margin 10;");
+        for (int i = 0; i < 10; i++) {
+            Check.row(x, i, 0, 0, 1);
+        }
+        for (int firm = 0; firm < 8; firm++) {
+            Check.due("tried at firm " + firm, x.tried(firm, 0, 1, 20, 0, 0, 11), firm < 2 ? 20 : 10);
+        }
+        Check.due("tried at all", x.tried(-1, 0, 1, 20, 0, 0, 11), 100);
     }
 
     private static void tryInWeeks() {

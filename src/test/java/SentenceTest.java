@@ -4,7 +4,9 @@ import java.nio.file.Path;
 import java.util.ArrayList;
 import java.util.List;
 import java.util.Map;
+import java.util.Set;
 import java.util.TreeMap;
+import java.util.TreeSet;
 import java.util.regex.Matcher;
 import java.util.regex.Pattern;
 import java.util.stream.Stream;
@@ -27,11 +29,13 @@ final class SentenceTest {
         Map<String, String> parts = parts(Files.readString(document));
         Map<String, boolean[]> held = new TreeMap<>();
         parts.forEach((name, text) -> held.put(name, new boolean[text.length()]));
+        Map<String, Set<String>> where = new TreeMap<>();
         int sentences = 0;
         for (Path file : javaFiles(tests)) {
             Matcher matcher = HOLDS.matcher(Files.readString(file));
             while (matcher.find()) {
                 lookUp(file, matcher.group(1), literal(matcher.group(2)), parts, held);
+                where.computeIfAbsent(matcher.group(1), name -> new TreeSet<>()).add(testName(file));
                 sentences++;
             }
         }
@@ -45,6 +49,7 @@ final class SentenceTest {
                         left(text, held.get(name)).size(), 0);
             }
         });
+        where.forEach((name, files) -> System.out.println(name + ": " + String.join(", ", files)));
         System.out.println(sentences + " sentences, or parts of them, are held by tests");
         Check.end();
     }
@@ -53,6 +58,10 @@ final class SentenceTest {
         try (Stream<Path> files = Files.list(folder)) {
             return files.filter(file -> file.toString().endsWith("Test.java")).sorted().toList();
         }
+    }
+
+    private static String testName(Path file) {
+        return file.getFileName().toString().replace(".java", "");
     }
 
     /** The sections by their titles (a promise's without what it is called), all blanks alike. */

@@ -64,7 +64,7 @@ final class Twins {
         add("place()", court.place());
         askPrices();
         int told = 0;
-        for (int fact = 0; fact < court.count(3) && told < 3; fact++) {
+        for (int fact = 0; fact < Math.min(20, court.count(3)) && told < 3; fact++) {
             if (court.award(fact) != -1) {
                 askText(fact);
                 told++;
